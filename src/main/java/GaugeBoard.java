@@ -437,9 +437,6 @@ public final class GaugeBoard {
 
     // Whether the bits of the mask, when they are cut off, make what is left one more: of two the even one.
     private static boolean roundsAway(long number, long mask) {
-        if (mask == 0) {
-            return false;
-        }
         long rest = number & mask;
         long half = (mask >>> 1) + 1;
         boolean odd = (number & (mask + 1)) != 0;
