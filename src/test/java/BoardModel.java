@@ -227,7 +227,8 @@ public final class BoardModel {
         for (Gauge other : at) {
             taking += other == null ? 0 : (int) other.steps.stream().filter(step -> step.source == g).count();
         }
-        int[] all = {gauge.kind, gauge.steps.size(), gauge.readings, gauge.swings, negative(gauge.value) ? 1 : 0, taking};
+        int sign = negative(gauge.value) ? 1 : 0;
+        int[] all = {gauge.kind, gauge.steps.size(), gauge.readings, gauge.swings, sign, taking};
         return all[what];
     }
 
