@@ -32,6 +32,7 @@ public final class UnchangedTest {
         refused("read(0, nan)", Check.ARGUMENT, b -> b.read(0, NAN));
         refused("read(2, nan)", Check.ARGUMENT, b -> b.read(2, NAN));
         refused("hand(0, 5)", Check.NONE, b -> b.hand(0, 5));
+        refused("hand(5, 0)", Check.NONE, b -> b.hand(5, 0));
         refused("hand(5, 5)", Check.NONE, b -> b.hand(5, 5));
         refused("hand(0, 0)", Check.ARGUMENT, b -> b.hand(0, 0));
         refused("hand(0, 2)", Check.ARGUMENT, b -> b.hand(0, 2));
@@ -57,7 +58,7 @@ public final class UnchangedTest {
         Check.same("readings behind " + told, readings(board), readings(prepared()));
     }
 
-    // Gauge 0 is full of steps, gauge 1 is taken by it and has no marks, gauge 2 is of another kind.
+    // Gauge 0 is full of steps, gauge 1 is taken by it and has a step but no marks, gauge 2 is of another kind.
     private static GaugeBoard prepared() {
         GaugeBoard board = Boards.with(Boards.DOUBLE, Boards.DOUBLE, Boards.INT);
         board.stepBy(0, 1, Boards.d(-9.25));
@@ -70,6 +71,7 @@ public final class UnchangedTest {
         board.stepOf(0, 4, 1);
         board.read(1, Boards.d(-3.5));
         board.clear(1);
+        board.stepBy(1, 2, Boards.d(1.5));
         board.stepBy(2, 1, -100L);
         board.read(2, -200L);
         board.read(2, 300L);
